@@ -107,6 +107,9 @@ public final class FaultsTest {
         fault("A=0.|,1.;", 2, 5);
         fault("A=0.,closed;", 2, 5);
         fault("A=();", 2, 3);
+        fault("A=(;", 2, 3);
+        fault("A=(closed;", 2, 3);
+        fault("A=0.,(closed);", 2, 6);
         fault("A=(0.;", 2, 5);
         fault("A=(0.closed);", 2, 5);
         fault("A=(0.", 2, 5);
@@ -119,6 +122,17 @@ public final class FaultsTest {
         fault("closed", 2, 0);
         fault(" ".repeat(400), 2, 400);
         fault("A=" + " ".repeat(398), 2, 400);
+        mostTokens();
+    }
+
+    /** As many TOKENS as THE TAPE has bytes. */
+    private void mostTokens() {
+        String item = "((((((0.))))))";
+        String body = "=" + (item + ",").repeat(5) + item + ";";
+        String four = "A" + body + "B" + body + "C" + body + "D" + body;
+        told(four + "E=" + item + "," + item + ";", 5);
+        fault(four + "E=" + item + "," + item + ",", 2, 400);
+        fault(four + "E=" + item + "," + item + "a", 1, 399);
     }
 
     private void numbers() {

@@ -228,7 +228,34 @@ public final class PromisesTest {
         due("six", Check.tell(x, "A=;B=;C=;D=;E=;F=;"), 6);
         due("a text of 400 bytes", Check.tell(x, "A=" + " ".repeat(397) + ";"), 1);
         due("depth six", Check.tell(x, "A=((((((0.[0 1])[0 1])[0 1])[0 1])[0 1])[0 1])[0 1];"), 1);
+        promise8TextsAfterTexts();
         due("six parts", Check.tell(x, "A=0.|1.|(2.,(3.[0 5]|4.),5.[5 5])closed;"), 1);
+    }
+
+    /** Nothing of a text comes into a later one, be it with a FAULT or without. */
+    private void promise8TextsAfterTexts() {
+        ShapeJudge x = new ShapeJudge();
+        nodes(x, 1);
+        x.edge(0, 0, 0);
+        x.edge(0, 2, 0);
+        for (String cut : new String[] {"A=(0.,x", "A=(0.|x", "A=0.,(1.,x", "A=((((((0.x", "A=0.|(1.|(2.,x"}) {
+            Check.tell(x, cut);
+            due("after " + cut, Check.tell(x, "A=0.,(1.|2.);B=((0.,2.));C=(0.|2.);"), 3);
+            due("a bracket after " + cut, x.fits(0, 0), 1);
+            due("brackets after " + cut, x.fits(0, 1), 1);
+            due("one alone after " + cut, x.fits(0, 2), 0);
+        }
+        x.cut(0, 2, 0);
+        String down = "A=0!B;B=0!C;C=0!D;D=0!E;E=0!F;F=;";
+        String up = "A=;B=0!A;C=0!B;D=0!C;E=0!D;F=0!E;";
+        for (int turn = 0; turn < 8; turn++) {
+            boolean isDown = turn / 2 % 2 == 0;
+            due("a chain of !", Check.tell(x, isDown ? down : up), 6);
+            for (int s = 0; s < 6; s++) {
+                int steps = isDown ? 5 - s : s;
+                due("turn " + turn + ", shape " + s, x.fits(0, s), steps % 2 == 0 ? 1 : 0);
+            }
+        }
     }
 
     private void promise9Fault() {
