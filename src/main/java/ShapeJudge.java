@@ -778,7 +778,6 @@ public final class ShapeJudge {
             lastSlot = s * PARTS + p;
             partName[lastSlot] = name;
             names[s] |= 1 << name;
-            tellPart(ANY, 0, 0, 0);
             addStep(PART, p);
         }
 

@@ -1,5 +1,9 @@
 import java.nio.file.Files;
 import java.nio.file.Path;
+import java.util.Map;
+import java.util.Set;
+import java.util.TreeMap;
+import java.util.TreeSet;
 import java.util.regex.Matcher;
 import java.util.regex.Pattern;
 
@@ -22,6 +26,7 @@ public final class LanguageTest {
         check.holds("ASCII alone", whole.chars().allMatch(c -> c < 128));
         lookAtStatics(check, bare);
         lookAtLengths(check, bare);
+        lookAtCalls(check, bare);
         check.finish("LanguageTest");
     }
 
@@ -53,5 +58,39 @@ public final class LanguageTest {
                     || lines[i].length() == 5);
             }
         }
+    }
+
+    /** No method calls itself by any way, and calls go at most eight deep; methods of one name count as one. */
+    private static void lookAtCalls(Check check, String bare) {
+        Map<String, Set<String>> calls = new TreeMap<>();
+        Pattern header = Pattern.compile("( {4}| {8})(?:[\\w\\[\\]]+ )+(\\w+)\\(.*\\) \\{");
+        String method = "";
+        for (String line : bare.split("\n")) {
+            Matcher begin = header.matcher(line);
+            if (begin.matches()) {
+                method = begin.group(2);
+                calls.putIfAbsent(method, new TreeSet<>());
+            } else if (!method.isEmpty()) {
+                Matcher call = Pattern.compile("\\b(\\w+)\\(").matcher(line);
+                while (call.find()) {
+                    calls.get(method).add(call.group(1));
+                }
+            }
+        }
+        check.holds("methods were found: " + calls.size(), calls.size() > 60);
+        for (String first : calls.keySet()) {
+            int depth = depthOf(first, calls, 0);
+            check.holds(first + " calls " + depth + " deep", depth <= 8);
+        }
+    }
+
+    private static int depthOf(String method, Map<String, Set<String>> calls, int above) {
+        int below = 0;
+        if (above <= 8) {
+            for (String called : calls.get(method)) {
+                below = Math.max(below, calls.containsKey(called) ? depthOf(called, calls, above + 1) : 0);
+            }
+        }
+        return below + 1;
     }
 }

@@ -36,11 +36,8 @@ public final class PromisesTest {
         check.due(call, got, want);
     }
 
-    /** An object that has been told a text, which must be without FAULT. */
     private ShapeJudge judge(String text) {
-        ShapeJudge x = new ShapeJudge();
-        check.holds("told without FAULT: " + text, Check.tell(x, text) > 0 && x.fault() == 0);
-        return x;
+        return check.judge(text, 0);
     }
 
     private static void nodes(ShapeJudge x, int many) {
