@@ -229,6 +229,17 @@ public final class BoundariesTest {
             due("with EDGES " + s, x.fits(0, s), 1);
             due("WANTED " + s, x.wanted(0, s), 0);
         }
+        Check.tell(x, "A=9@A,9!B,9 3...4,9.;B=8.;");
+        Check.tell(x, "A=9@A,9!B,9 3...4,9.;B=8.;");
+        Check.tell(x, "A=7.,7.,7.,7 5...6;B=7!A;");
+        for (int p = 0; p < 4; p++) {
+            int[] want = {7, p < 3 ? 0 : 3, p < 3 ? 0 : 5, p < 3 ? 0 : 6};
+            for (int what = 0; what < 4; what++) {
+                due("PART " + p + " " + what, x.part(0, p, what), want[what]);
+            }
+        }
+        due("the SHAPE of !", x.part(1, 0, 2), 0);
+        due("no other PART", x.part(1, 1, 0), -1);
     }
 
     // ---- NODES and EDGES ----
